@@ -332,6 +332,21 @@ public final class PromisesTest {
     x.key(2);
     due("9: 1 beside 2", x.ticks(1), 9);
     due("9: 2 beside 2, hanging", x.ticks(1), 13);
+    x = with("p3;p2;p4;p2;p1;");
+    x.key(1);
+    x.key(3);
+    due("9: two at their tops", x.ticks(2), 10);
+    due("15: these hang", x.bar(1, 4) * 10 + x.bar(3, 4), 11);
+    due("15: these do not", x.bar(0, 4) + x.bar(2, 4), 0);
+    x.key(0);
+    due("9: 1 beside 2", x.ticks(1), 10);
+    due("9: the first, 2 beside one that hangs at 2", x.ticks(1), 11);
+    x = with("p1;p4;p2;p4;p2;");
+    x.key(2);
+    x.key(4);
+    x.ticks(2);
+    x.key(0);
+    due("9: the first, at its top as others hang there", x.ticks(1), 21);
     x = with("p4;p4;s4;");
     x.key(0);
     x.key(1);
@@ -682,6 +697,9 @@ public final class PromisesTest {
     // 1 rests 8 behind its key; at a pace of 4 bars beside each other meet at 2, bars apart do not.
     due("22: which", x.better(0, 0, 3, 0), 1);
     due("22: pace", x.better(0, 0, 3, 1), 4);
+    fillRow(x, 1, 1, 0, 2, 1);
+    due("22: the word asked for, not the one before", x.better(1, 2, 2, 0), NONE);
+    due("22: from i on", x.better(0, 0, 3, 0), 1);
     x = with("p4;p1;p4;");
     fillRow(x, 0, 0, 2, 0);
     due("22: apart already", x.pace(0, 0, 3), 4);
@@ -851,6 +869,7 @@ public final class PromisesTest {
     x.ticks(5);
     due("27: again", x.restore(1), 1);
     due("27: the image is as it was", x.count(2), 1);
+    due("27: no act of this basket, either", x.count(7), 0);
     x = with("p1;p1;");
     x.key(0);
     x.key(1);
