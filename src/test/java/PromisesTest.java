@@ -1,35 +1,5 @@
 /** Each promise by answers worked out by hand from the document: ordinary inputs, its edges, wrong inputs. */
-public final class PromisesTest {
-  private static final int NONE = TypeBars.NONE, BAD = TypeBars.BAD, STATE = TypeBars.STATE, FULL = TypeBars.FULL;
-  private static final int NULL = -1000011, PLACE = -1000012, KIND = -1000013, SIZE = -1000014, STORE = -1000015;
-  private static final int MAX = Integer.MAX_VALUE, MIN = Integer.MIN_VALUE;
-
-  private static int wrong = 0, asked = 0;
-
-  private static void due(String what, int got, int want) {
-    asked++;
-    if (got != want) {
-      wrong++;
-      System.out.println(what + " answered " + got + ", due is " + want);
-    }
-  }
-
-  private static void feed(TypeBars x, String text) {
-    for (int i = 0; i < text.length(); i++) x.feed(text.charAt(i));
-  }
-
-  private static TypeBars with(String text) {
-    TypeBars x = new TypeBars();
-    feed(x, text);
-    due("basket of " + text, x.basket(), text.length() / 3);
-    return x;
-  }
-
-  private static void fillRow(TypeBars x, int row, int... items) {
-    x.row(row, 2, items.length);
-    for (int i = 0; i < items.length; i++) x.set(row, i, items[i]);
-  }
-
+public final class PromisesTest extends Checks {
   private static void faultOf(String text, int number, int place) {
     TypeBars x = with("p2;s3;");
     x.key(1);
@@ -1049,7 +1019,6 @@ public final class PromisesTest {
     asks();
     counts();
     statuses();
-    System.out.println(wrong == 0 ? asked + " answers are as due" : wrong + " answers are not as due");
-    if (wrong != 0) System.exit(1);
+    end();
   }
 }
