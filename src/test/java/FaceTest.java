@@ -7,7 +7,9 @@ import java.lang.reflect.Modifier;
 import java.nio.file.Files;
 import java.nio.file.Path;
 import java.util.Arrays;
+import java.util.Map;
 import java.util.Set;
+import java.util.TreeMap;
 import java.util.TreeSet;
 import java.util.regex.Matcher;
 import java.util.regex.Pattern;
@@ -89,6 +91,7 @@ public final class FaceTest {
           "it imports " + imports.group(1));
     }
     methodsAreShort(code);
+    callsGoEightDeep(code);
   }
 
   private static void methodsAreShort(String code) {
@@ -100,6 +103,47 @@ public final class FaceTest {
         must(line - since <= 60, "a method of " + (line - since) + " lines ends at " + line);
         since = 0;
       }
+    }
+  }
+
+  /** By the name of a method: the names of methods of the file that its body calls, but itself. */
+  private static Map<String, Set<String>> callsIn(String code) {
+    Map<String, String> bodies = new TreeMap<>();
+    Matcher head = Pattern.compile("\\n +(?:[a-z]+ )*(?:[A-Z]\\w*|int|long|boolean|void) (\\w+)\\([^;{}()]*\\) \\{").matcher(code);
+    while (head.find()) {
+      int end = head.end();
+      for (int open = 1; open > 0 && end < code.length(); end++) {
+        if (code.charAt(end) == '{') open++;
+        if (code.charAt(end) == '}') open--;
+      }
+      bodies.merge(head.group(1), code.substring(head.end(), end), String::concat);
+    }
+    Map<String, Set<String>> calls = new TreeMap<>();
+    for (String name : bodies.keySet()) {
+      Set<String> called = new TreeSet<>();
+      Matcher call = Pattern.compile("\\b(\\w+)\\(").matcher(bodies.get(name));
+      while (call.find()) if (bodies.containsKey(call.group(1)) && !call.group(1).equals(name)) called.add(call.group(1));
+      calls.put(name, called);
+    }
+    return calls;
+  }
+
+  private static String deepest(String name, Map<String, Set<String>> calls, int depth) {
+    String longest = "";
+    for (String called : calls.get(name)) {
+      String further = depth > 20 ? "" : deepest(called, calls, depth + 1);
+      if (further.split(" ").length > longest.split(" ").length || longest.isEmpty()) longest = further;
+    }
+    return longest.isEmpty() ? name : name + " " + longest;
+  }
+
+  private static void callsGoEightDeep(String code) {
+    Map<String, Set<String>> calls = callsIn(code);
+    for (String method : FACE) {
+      String name = method.substring(0, method.indexOf('/'));
+      must(calls.containsKey(name), name + " was not found in the text");
+      String chain = calls.containsKey(name) ? deepest(name, calls, 1) : name;
+      must(chain.split(" ").length <= 8, "these calls go too deep: " + chain);
     }
   }
 
